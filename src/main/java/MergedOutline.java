@@ -983,15 +983,16 @@ public final class MergedOutline {
     private static final class Matching {
         private final int[] scores = new int[SECTIONS * SECTIONS];
         private final int[] partners = new int[SECTIONS];
+        /* Of the sections of BASE; one that is not there can not be paired, either. */
         private final boolean[] taken = new boolean[SECTIONS];
 
         void match(Outline base, Outline side) {
             for (int s = 0; s < SECTIONS; s++) {
                 partners[s] = NONE;
-                taken[s] = false;
+                taken[s] = !base.holds(s);
             }
             for (int b = 1; b < SECTIONS; b++) {
-                for (int s = 1; s < SECTIONS; s++) {
+                for (int s = 1; s < SECTIONS && !taken[b]; s++) {
                     scores[b * SECTIONS + s] = score(base, b, side, s);
                 }
             }
@@ -1001,7 +1002,7 @@ public final class MergedOutline {
         }
 
         private static int score(Outline base, int b, Outline side, int s) {
-            if (!base.holds(b) || !side.holds(s)) {
+            if (!side.holds(s)) {
                 return 0;
             }
             int sum = base.trait(b, NAME) == side.trait(s, NAME) ? 4 : 0;
@@ -1014,8 +1015,8 @@ public final class MergedOutline {
 
         private void pairAll(int score) {
             for (int b = 1; b < SECTIONS; b++) {
-                for (int s = 1; s < SECTIONS; s++) {
-                    if (scores[b * SECTIONS + s] == score && !taken[b] && partners[s] == NONE) {
+                for (int s = 1; s < SECTIONS && !taken[b]; s++) {
+                    if (scores[b * SECTIONS + s] == score && partners[s] == NONE) {
                         taken[b] = true;
                         partners[s] = b;
                     }

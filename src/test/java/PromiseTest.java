@@ -38,6 +38,7 @@ public final class PromiseTest {
         does();
         doesFaults();
         back();
+        backOverEach();
         refused();
         digest();
         System.out.println("promises: " + passed + " answers as due, " + wrong + " not");
@@ -547,6 +548,8 @@ public final class PromiseTest {
         run(x, "d2 3;");
         told("a child that went again", x, "");
         due("3 is in LEFT alone, not CHANGED", x.has(3, 3), 0);
+        x = after(three, "d1 2;m2 1 2 0;");
+        told("a child that hung elsewhere, the lesser one", x, "3 2 2");
         x = after(three, "d1 1;d2 1;");
         due("deleted by both", x.has(3, 1), 0);
         told("no conflict", x, "");
@@ -627,6 +630,9 @@ public final class PromiseTest {
         told("kept where it hung", x, "3 1 1, 3 2 2");
         x = after("a0 0 0 1 1;a0 1 0 2 2;a0 2 0 3 3;a0 0 1 4 4;f;", "m0 1 4 0;m2 1 4 0;d1 1;e2 3 9;");
         told("by BASE's PARENTS", x, "3 3 3, 4 3 2");
+        MergedOutline y = after("a0 0 0 1 1;a0 0 1 2 2;m0 1 2 0;f;d1 2;e2 1 9;");
+        told("the PARENT of 1 is lost", y, "3 1 1, 4 1 2");
+        walks("1 hangs on the ROOT", y, 3, "0:-1 1:0");
         walks("by BASE's PARENTS", x, 3, "0:-1 4:0 3:4");
     }
 
@@ -676,6 +682,17 @@ public final class PromiseTest {
                 "m1 1 2 0;m1 2 3 0;m1 4 1 0;m2 1 2 0;m2 3 1 0;");
         told("moved by both, put back in vain", x, "5 1 2, 5 1 4");
         walks("1 is cut at the ROOT", x, 3, "0:-1 1:0 4:1 3:1 2:3");
+        run(x, "m1 4 0 0;");
+        told("merged anew, 1 can be put back again", x, "5 1 2");
+        walks("1 is on 4", x, 3, "0:-1 4:0 1:4 3:1 2:3");
+        x = after("a0 0 0 1 1;a0 1 0 2 2;a0 2 0 3 3;a0 0 1 4 4;f;", "m1 1 4 0;m2 3 1 0;d2 2;m2 4 3 0;");
+        told("put back where it is, but once", x, "5 3 1, 5 4 3");
+        walks("put back where it is, but once", x, 3, "0:-1 4:0 1:4 3:1");
+        x = after("a0 0 0 1 1;a0 0 1 2 2;a0 0 2 3 3;f;d0 1;d1 1;", "m2 1 2 0;m2 3 1 0;m1 2 3 0;");
+        told("1 is in the OTHER side alone", x, "5 3 1");
+        walks("1 is in the OTHER side alone", x, 3, "0:-1 3:0 2:3 1:2");
+        x = after("a0 0 0 1 1;a0 0 1 2 2;a0 0 2 3 3;m0 1 2 0;f;", "m1 2 3 0;m2 3 1 0;");
+        told("1 is where BASE has it", x, "5 3 1");
     }
 
     /** Step (g). */
@@ -689,6 +706,8 @@ public final class PromiseTest {
         walks("RIGHT's among them", x, 3, "0:-1 3:0 5:0 1:0 2:0 4:0");
         due("places", x.of(3, 4, 1), 4);
         due("places", x.of(3, 3, 1), 0);
+        x = after("a0 0 0 1 1;a0 0 1 2 2;a0 0 2 3 3;a0 0 3 4 4;f;a2 0 2 5 5;");
+        walks("behind the one with the same place", x, 3, "0:-1 1:0 2:0 3:0 5:0 4:0");
         x = after("a0 0 0 1 1;a0 1 0 2 2;a0 1 1 3 3;a0 0 1 4 4;f;", "d1 1;e2 3 9;e2 2 9;a1 0 0 5 5;");
         walks("those without a home come last, by number", x, 3, "0:-1 5:0 4:0 2:0 3:0");
         x = after("a1 0 0 1 1;a2 0 0 2 2;p2;");
@@ -762,6 +781,10 @@ public final class PromiseTest {
         due("5 has the place of 2", x.matches(1, 6), 2);
         due("4 alone: the lesser b that is left", x.matches(1, 7), 3);
         due("a section that fits none", x.matches(1, 4), NONE);
+        MergedOutline y = after("a0 0 0 10 20;a0 1 0 50 21;r1 0 9;a1 0 0 0 60;a1 3 0 50 61;a1 3 1 52 62;");
+        due("place alone", y.matches(1, 3), NONE);
+        due("NAME and place ahead of the PARENT's NAME and place", y.matches(1, 4), 2);
+        due("the PARENT's NAME alone", y.matches(1, 5), NONE);
         due("o", x.matches(0, 1), BAD);
         due("o", x.matches(3, 1), BAD);
         due("the ROOT", x.matches(1, 0), BAD);
@@ -949,6 +972,42 @@ public final class PromiseTest {
         due("preferred by does()", x.told(0), 2);
         due("back over does()", x.back(), 2);
         due("preferred", x.told(0), 1);
+    }
+
+    /** The digest tells of all that back() brings back, so it must be as it was ahead of each act. */
+    private static void backOverEach() {
+        promise = 22;
+        for (int first = 0; first <= 5; first++) {
+            MergedOutline x = after("a0 0 0 1 1;a0 1 0 2 2;a0 0 1 3 3;f;m1 1 3 0;r2 1 9;e2 2 9;a2 0 0 4 4;");
+            x.back();
+            x.does();
+            x.back();
+            x.does();
+            long[] before = new long[4];
+            for (int i = 0; i < 4; i++) {
+                before[i] = x.digest();
+                due("act " + (first + i), anAct(x, first + i) >= 0 ? 1 : 0, 1);
+                due("act " + (first + i) + " is seen", x.digest() != before[i] ? 1 : 0, 1);
+            }
+            for (int i = 3; i >= 0; i--) {
+                due("back over act " + (first + i), x.back(), i + 1);
+                due("all is as it was ahead of act " + (first + i), x.digest(), before[i]);
+            }
+        }
+    }
+
+    private static int anAct(MergedOutline x, int kind) {
+        switch (kind) {
+            case 0: return x.adds(1, 2, 0, 5, 5);
+            case 1: return x.moves(2, 3, 2, 0);
+            case 2: return x.renames(1, 2, 50);
+            case 3: return x.edits(2, 1, 51);
+            case 4: return x.deletes(1, 2);
+            case 5: return x.prefers(2);
+            case 6: return x.adopts();
+            case 7: return x.does();
+            default: return x.forks();
+        }
     }
 
     private static void refused() {
