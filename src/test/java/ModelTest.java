@@ -4,18 +4,21 @@ import java.util.TreeMap;
 
 /** Long runs of calls, the same ones each time, on the class and on the model, which must answer alike. */
 public final class ModelTest {
-    private static final int RUNS = 1500;
-    private static final int CALLS = 510;
+    private static final int RUNS = 2500;
+    /* A step types at most four orders; a text may make THE TEXT full, never the step longer. */
+    private static final int LONGEST_STEP = 160;
 
     private final Random dice;
-    private final MergedOutline real = new MergedOutline();
+    private final Used real = new Used();
     private final Model model = new Model();
     private final StringBuilder log = new StringBuilder();
     private final boolean wild;
+    private final boolean tangled;
 
     private ModelTest(long seed) {
         dice = new Random(seed);
         wild = seed % 5 == 0;
+        tangled = seed % 5 == 1;
     }
 
     public static void main(String[] args) {
@@ -40,21 +43,17 @@ public final class ModelTest {
     }
 
     private boolean differs() {
-        int calls = 0;
-        if (dice.nextBoolean()) {
+        if (tangled || dice.nextBoolean()) {
             for (int i = dice.nextInt(10); i > 0; i--) {
-                calls++;
                 if (addsInBase()) {
                     return true;
                 }
             }
-            calls++;
             if (same("forks()", real.forks(), model.forks())) {
                 return true;
             }
         }
-        while (calls < CALLS) {
-            calls += 2;
+        while (real.callsLeft() > LONGEST_STEP) {
             if (step() || same("digest()", real.digest(), model.digest())) {
                 return true;
             }
@@ -108,6 +107,9 @@ public final class ModelTest {
     }
 
     private boolean step() {
+        if (tangled && dice.nextInt(6) != 0) {
+            return moves(outlineToEdit());
+        }
         int kind = dice.nextInt(100);
         if (kind < 60) {
             return act(kind);
@@ -130,10 +132,7 @@ public final class ModelTest {
                     real.adds(o, s, k, n, t), model.adds(o, s, k, n, t));
         }
         if (kind < 34) {
-            int p = section(o);
-            int k = place(o, p);
-            return same("moves(" + o + ", " + s + ", " + p + ", " + k + ")",
-                    real.moves(o, s, p, k), model.moves(o, s, p, k));
+            return moves(o);
         }
         int v = value();
         if (kind < 41) {
@@ -156,6 +155,14 @@ public final class ModelTest {
             return same("prefers(" + k + ")", real.prefers(k), model.prefers(k));
         }
         return same("back()", real.back(), model.back());
+    }
+
+    private boolean moves(int o) {
+        int s = section(o);
+        int p = section(o);
+        int k = place(o, p);
+        return same("moves(" + o + ", " + s + ", " + p + ", " + k + ")",
+                real.moves(o, s, p, k), model.moves(o, s, p, k));
     }
 
     private boolean asks() {

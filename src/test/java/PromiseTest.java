@@ -1,12 +1,5 @@
 /** Each promise of the document by itself: ordinary inputs, the edges that it names, wrong inputs. */
-public final class PromiseTest {
-    private static final int NONE = -1, BAD = -2, NO = -3, FULL = -4, NOT_SO_MANY = -5;
-    private static final int LEAST = Integer.MIN_VALUE, MOST = Integer.MAX_VALUE;
-
-    private static int promise = 0;
-    private static int passed = 0;
-    private static int wrong = 0;
-
+public final class PromiseTest extends Checks {
     public static void main(String[] args) {
         aNewObject();
         adds();
@@ -41,100 +34,12 @@ public final class PromiseTest {
         backOverEach();
         refused();
         digest();
-        System.out.println("promises: " + passed + " answers as due, " + wrong + " not");
-        System.exit(wrong == 0 ? 0 : 1);
-    }
-
-    private static void due(String what, long got, long want) {
-        if (got == want) {
-            passed++;
-        } else {
-            wrong++;
-            System.out.println("promise " + promise + ": " + what + " answered " + got + ", due is " + want);
-        }
-    }
-
-    private static int types(MergedOutline x, String text) {
-        int answer = NONE;
-        for (int i = 0; i < text.length(); i++) {
-            answer = x.type(text.charAt(i));
-        }
-        return answer;
-    }
-
-    private static int doesText(MergedOutline x, String text) {
-        x.clear();
-        types(x, text);
-        return x.does();
-    }
-
-    /** Orders that must all be done, to come quickly to where a test begins. */
-    private static MergedOutline after(String... texts) {
-        MergedOutline x = new MergedOutline();
-        run(x, texts);
-        return x;
-    }
-
-    private static void run(MergedOutline x, String... texts) {
-        for (String text : texts) {
-            int answer = doesText(x, text);
-            if (answer < 1) {
-                due("the orders " + text, answer, text.chars().filter(c -> c == ';').count());
-            }
-        }
-    }
-
-    private static String walked(MergedOutline x, int o) {
-        StringBuilder all = new StringBuilder();
-        for (int i = 0; i < 17; i++) {
-            int s = x.walk(o, i);
-            if (s == NONE) {
-                break;
-            }
-            all.append(i == 0 ? "" : " ").append(s).append(':').append(x.of(o, s, 0));
-        }
-        return all.toString();
-    }
-
-    private static void walks(String what, MergedOutline x, int o, String want) {
-        String got = walked(x, o);
-        if (!got.equals(want)) {
-            System.out.println(what + " walks " + got + ", due is " + want);
-        }
-        due(what, got.equals(want) ? 1 : 0, 1);
-    }
-
-    /** Conflicts told as kind, one, other, with commas between the rows. */
-    private static void told(String what, MergedOutline x, String want) {
-        StringBuilder all = new StringBuilder();
-        int count = x.conflicts(NONE, 0);
-        for (int i = 0; i < count; i++) {
-            all.append(i == 0 ? "" : ", ").append(x.conflicts(i, 0)).append(' ').append(x.conflicts(i, 1))
-                    .append(' ').append(x.conflicts(i, 2));
-        }
-        if (!all.toString().equals(want)) {
-            System.out.println(what + " tells " + all + ", due is " + want);
-        }
-        due(what, all.toString().equals(want) ? 1 : 0, 1);
-        due(what + ", behind the last", x.conflicts(count, 0), NOT_SO_MANY);
-    }
-
-    private static void scripted(String what, MergedOutline x, int o, String want) {
-        StringBuilder all = new StringBuilder();
-        int count = x.script(o, NONE, 0);
-        for (int i = 0; i < count; i++) {
-            all.append(i == 0 ? "" : ", ").append(x.script(o, i, 0)).append(' ').append(x.script(o, i, 1));
-        }
-        if (!all.toString().equals(want)) {
-            System.out.println(what + " tells " + all + ", due is " + want);
-        }
-        due(what, all.toString().equals(want) ? 1 : 0, 1);
-        due(what + ", behind the last", x.script(o, count, 1), NOT_SO_MANY);
+        end("PromiseTest");
     }
 
     private static void aNewObject() {
-        promise = 1;
-        MergedOutline x = new MergedOutline();
+        at = "promise 1";
+        Used x = new Used();
         for (int o = 0; o < 4; o++) {
             due("size", x.size(o, 0), 1);
             due("depth", x.size(o, 1), 0);
@@ -154,14 +59,14 @@ public final class PromiseTest {
         due("conflicts", x.conflicts(NONE, 0), 0);
         due("script", x.script(1, NONE, 0), 0);
         due("script", x.script(2, NONE, 0), 0);
-        MergedOutline y = new MergedOutline();
+        Used y = new Used();
         x.adds(0, 0, 0, 1, 1);
         due("another object", y.size(0, 0), 1);
     }
 
     private static void adds() {
-        promise = 2;
-        MergedOutline x = new MergedOutline();
+        at = "promise 2";
+        Used x = new Used();
         due("the first", x.adds(0, 0, 0, 7, 8), 1);
         due("in another outline", x.adds(1, 0, 0, 99, 0), 2);
         due("in the third one", x.adds(2, 0, 0, 0, 99), 3);
@@ -210,8 +115,8 @@ public final class PromiseTest {
     }
 
     private static void moves() {
-        promise = 3;
-        MergedOutline x = after("a0 0 0 1 1;a0 0 1 2 2;a0 0 2 3 3;a0 0 3 4 4;a0 2 0 5 5;a0 5 0 6 6;");
+        at = "promise 3";
+        Used x = after("a0 0 0 1 1;a0 0 1 2 2;a0 0 2 3 3;a0 0 3 4 4;a0 2 0 5 5;a0 5 0 6 6;");
         walks("at first", x, 0, "0:-1 1:0 2:0 5:2 6:5 3:0 4:0");
         due("to the end", x.moves(0, 1, 0, 3), 0);
         walks("moved to the end", x, 0, "0:-1 2:0 5:2 6:5 3:0 4:0 1:0");
@@ -251,8 +156,8 @@ public final class PromiseTest {
     }
 
     private static void renames() {
-        promise = 4;
-        MergedOutline x = after("a0 0 0 10 20;f;");
+        at = "promise 4";
+        Used x = after("a0 0 0 10 20;f;");
         due("what it was", x.renames(0, 1, 11), 10);
         due("what it was", x.renames(0, 1, 99), 11);
         due("NAME", x.of(0, 1, 2), 99);
@@ -273,8 +178,8 @@ public final class PromiseTest {
     }
 
     private static void edits() {
-        promise = 5;
-        MergedOutline x = after("a0 0 0 10 20;f;");
+        at = "promise 5";
+        Used x = after("a0 0 0 10 20;f;");
         due("what it was", x.edits(1, 1, 21), 20);
         due("what it was", x.edits(1, 1, 0), 21);
         due("TEXT", x.of(1, 1, 3), 0);
@@ -295,8 +200,8 @@ public final class PromiseTest {
     }
 
     private static void deletes() {
-        promise = 6;
-        MergedOutline x = after("a0 0 0 1 1;a0 0 1 2 2;a0 0 2 3 3;a0 2 0 4 4;a0 4 0 5 5;a0 2 1 6 6;f;");
+        at = "promise 6";
+        Used x = after("a0 0 0 1 1;a0 0 1 2 2;a0 0 2 3 3;a0 2 0 4 4;a0 4 0 5 5;a0 2 1 6 6;f;");
         due("all below", x.deletes(0, 2), 4);
         walks("what is left", x, 0, "0:-1 1:0 3:0");
         due("those behind are one nearer", x.of(0, 3, 1), 1);
@@ -316,8 +221,8 @@ public final class PromiseTest {
     }
 
     private static void forks() {
-        promise = 7;
-        MergedOutline x = after("a0 0 0 1 2;a0 1 0 3 4;a1 0 0 5 6;a2 0 0 7 8;r0 0 9;e0 0 8;r1 0 1;");
+        at = "promise 7";
+        Used x = after("a0 0 0 1 2;a0 1 0 3 4;a1 0 0 5 6;a2 0 0 7 8;r0 0 9;e0 0 8;r1 0 1;");
         due("how many", x.forks(), 3);
         due("LEFT as BASE", x.alike(0, 1), 3);
         due("RIGHT as BASE", x.alike(0, 2), 3);
@@ -338,8 +243,8 @@ public final class PromiseTest {
     }
 
     private static void prefers() {
-        promise = 8;
-        MergedOutline x = after("a0 0 0 1 1;f;r1 1 2;r2 1 3;");
+        at = "promise 8";
+        Used x = after("a0 0 0 1 1;f;r1 1 2;r2 1 3;");
         due("LEFT at first", x.of(3, 1, 2), 2);
         due("which was", x.prefers(2), 1);
         due("RIGHT now", x.of(3, 1, 2), 3);
@@ -358,8 +263,8 @@ public final class PromiseTest {
     }
 
     private static void adopts() {
-        promise = 9;
-        MergedOutline x = after("a0 0 0 1 1;a0 0 1 2 2;f;r1 1 5;r2 2 6;a1 1 0 7 7;d2 1;p2;");
+        at = "promise 9";
+        Used x = after("a0 0 0 1 1;a0 0 1 2 2;f;r1 1 5;r2 2 6;a1 1 0 7 7;d2 1;p2;");
         due("conflicts ahead of it", x.conflicts(NONE, 0), 1);
         due("how many", x.adopts(), 4);
         for (int o = 0; o < 3; o++) {
@@ -378,8 +283,8 @@ public final class PromiseTest {
     }
 
     private static void has() {
-        promise = 10;
-        MergedOutline x = after("a0 0 0 1 1;a1 0 0 2 2;");
+        at = "promise 10";
+        Used x = after("a0 0 0 1 1;a1 0 0 2 2;");
         due("in BASE", x.has(0, 1), 1);
         due("not in BASE", x.has(0, 2), 0);
         due("in LEFT", x.has(1, 2), 1);
@@ -397,8 +302,8 @@ public final class PromiseTest {
     }
 
     private static void of() {
-        promise = 11;
-        MergedOutline x = after("a0 0 0 11 12;a0 0 1 21 22;a0 2 0 31 32;a0 2 1 41 42;a0 4 0 51 52;f;");
+        at = "promise 11";
+        Used x = after("a0 0 0 11 12;a0 0 1 21 22;a0 2 0 31 32;a0 2 1 41 42;a0 4 0 51 52;f;");
         due("PARENT", x.of(0, 4, 0), 2);
         due("place", x.of(0, 4, 1), 1);
         due("NAME", x.of(0, 4, 2), 41);
@@ -424,8 +329,8 @@ public final class PromiseTest {
     }
 
     private static void walk() {
-        promise = 12;
-        MergedOutline x = after("a0 0 0 1 1;a0 1 0 2 2;a0 2 0 3 3;a0 0 1 4 4;a0 1 0 5 5;a0 4 0 6 6;a0 4 1 7 7;");
+        at = "promise 12";
+        Used x = after("a0 0 0 1 1;a0 1 0 2 2;a0 2 0 3 3;a0 0 1 4 4;a0 1 0 5 5;a0 4 0 6 6;a0 4 1 7 7;");
         int[] order = {0, 1, 5, 2, 3, 4, 6, 7};
         for (int i = 0; i < order.length; i++) {
             due("the " + i + "-th", x.walk(0, i), order[i]);
@@ -441,7 +346,7 @@ public final class PromiseTest {
         due("o", x.walk(4, 0), BAD);
         due("o", x.walk(-1, 0), BAD);
         due("counted", x.refused(0), 4);
-        MergedOutline chain = new MergedOutline();
+        Used chain = new Used();
         for (int s = 1; s < 16; s++) {
             chain.adds(0, s - 1, 0, s, s);
         }
@@ -450,8 +355,8 @@ public final class PromiseTest {
     }
 
     private static void size() {
-        promise = 13;
-        MergedOutline x = after("a0 0 0 1 1;a0 1 0 2 2;a0 0 0 3 3;a1 0 0 4 4;");
+        at = "promise 13";
+        Used x = after("a0 0 0 1 1;a0 1 0 2 2;a0 0 0 3 3;a1 0 0 4 4;");
         due("BASE", x.size(0, 0), 4);
         due("how deep", x.size(0, 1), 2);
         due("LEFT", x.size(1, 0), 2);
@@ -465,7 +370,7 @@ public final class PromiseTest {
         due("what", x.size(0, -1), BAD);
         due("what", x.size(0, 2), BAD);
         due("counted", x.refused(0), 4);
-        MergedOutline chain = new MergedOutline();
+        Used chain = new Used();
         for (int s = 1; s < 16; s++) {
             chain.adds(2, s - 1, 0, s, s);
         }
@@ -475,8 +380,8 @@ public final class PromiseTest {
     }
 
     private static void alike() {
-        promise = 14;
-        MergedOutline x = after("a0 0 0 1 1;a0 0 1 2 2;a0 0 2 3 3;f;");
+        at = "promise 14";
+        Used x = after("a0 0 0 1 1;a0 0 1 2 2;a0 0 2 3 3;f;");
         due("all", x.alike(0, 1), 4);
         due("all", x.alike(3, 3), 4);
         x.renames(1, 1, 9);
@@ -498,13 +403,13 @@ public final class PromiseTest {
         due("b", x.alike(0, -1), BAD);
         due("b", x.alike(0, 4), BAD);
         due("counted", x.refused(0), 4);
-        MergedOutline y = after("a0 0 0 1 1;a0 1 0 2 2;a0 0 1 3 3;f;m1 2 3 0;");
+        Used y = after("a0 0 0 1 1;a0 1 0 2 2;a0 0 1 3 3;f;m1 2 3 0;");
         due("a PARENT alone, the place alike", y.alike(0, 1), 3);
     }
 
     private static void conflictsAsked() {
-        promise = 15;
-        MergedOutline x = after("a0 0 0 1 1;f;r1 1 2;r2 1 3;e1 1 4;e2 1 5;");
+        at = "promise 15";
+        Used x = after("a0 0 0 1 1;f;r1 1 2;r2 1 3;e1 1 4;e2 1 5;");
         told("NAME and TEXT", x, "0 1 1, 1 1 1");
         due("not so many", x.conflicts(2, 0), NOT_SO_MANY);
         due("not so many", x.conflicts(2, 2), NOT_SO_MANY);
@@ -522,9 +427,9 @@ public final class PromiseTest {
 
     /** Step (a). */
     private static void mergedSections() {
-        promise = 15;
+        at = "promise 15";
         String three = "a0 0 0 1 1;a0 0 1 2 2;a0 0 2 3 3;f;";
-        MergedOutline x = after(three, "d1 1;");
+        Used x = after(three, "d1 1;");
         due("deleted by one, not CHANGED", x.has(3, 1), 0);
         told("no conflict", x, "");
         run(x, "r2 1 9;");
@@ -566,8 +471,8 @@ public final class PromiseTest {
 
     /** Steps (b) to (d). */
     private static void mergedTraits() {
-        promise = 15;
-        MergedOutline x = after("a0 0 0 1 1;a0 0 1 2 2;a0 0 2 3 3;f;", "r1 1 10;e1 2 20;m1 3 1 0;");
+        at = "promise 15";
+        Used x = after("a0 0 0 1 1;a0 0 1 2 2;a0 0 2 3 3;f;", "r1 1 10;e1 2 20;m1 3 1 0;");
         due("LEFT's NAME", x.of(3, 1, 2), 10);
         due("LEFT's TEXT", x.of(3, 2, 3), 20);
         due("LEFT's PARENT", x.of(3, 3, 0), 1);
@@ -598,8 +503,8 @@ public final class PromiseTest {
 
     /** Sections that both sides have and BASE has not. */
     private static void mergedBesideBase() {
-        promise = 15;
-        MergedOutline x = after("a0 0 0 1 1;a0 0 1 2 2;a0 0 2 3 3;f;d0 1;d0 2;d0 3;");
+        at = "promise 15";
+        Used x = after("a0 0 0 1 1;a0 0 1 2 2;a0 0 2 3 3;f;d0 1;d0 2;d0 3;");
         told("alike in both", x, "");
         walks("alike in both", x, 3, "0:-1 1:0 2:0 3:0");
         run(x, "r1 1 0;e2 2 0;m2 3 1 0;");
@@ -616,8 +521,8 @@ public final class PromiseTest {
 
     /** Step (e). */
     private static void mergedLostParents() {
-        promise = 15;
-        MergedOutline x = after("a0 0 0 1 1;a0 1 0 2 2;a0 2 0 3 3;a0 3 0 4 4;f;", "d1 2;e2 4 9;");
+        at = "promise 15";
+        Used x = after("a0 0 0 1 1;a0 1 0 2 2;a0 2 0 3 3;a0 3 0 4 4;f;", "d1 2;e2 4 9;");
         told("the grandparent", x, "3 4 4, 4 4 3");
         walks("hangs on 1", x, 3, "0:-1 1:0 4:1");
         run(x, "e2 3 9;");
@@ -630,7 +535,7 @@ public final class PromiseTest {
         told("kept where it hung", x, "3 1 1, 3 2 2");
         x = after("a0 0 0 1 1;a0 1 0 2 2;a0 2 0 3 3;a0 0 1 4 4;f;", "m0 1 4 0;m2 1 4 0;d1 1;e2 3 9;");
         told("by BASE's PARENTS", x, "3 3 3, 4 3 2");
-        MergedOutline y = after("a0 0 0 1 1;a0 0 1 2 2;m0 1 2 0;f;d1 2;e2 1 9;");
+        Used y = after("a0 0 0 1 1;a0 0 1 2 2;m0 1 2 0;f;d1 2;e2 1 9;");
         told("the PARENT of 1 is lost", y, "3 1 1, 4 1 2");
         walks("1 hangs on the ROOT", y, 3, "0:-1 1:0");
         walks("by BASE's PARENTS", x, 3, "0:-1 4:0 3:4");
@@ -638,8 +543,8 @@ public final class PromiseTest {
 
     /** Step (f). */
     private static void mergedRings() {
-        promise = 15;
-        MergedOutline x = after("a0 0 0 1 1;a0 0 1 2 2;a0 0 2 3 3;f;", "m1 1 2 0;m2 2 1 0;");
+        at = "promise 15";
+        Used x = after("a0 0 0 1 1;a0 0 1 2 2;a0 0 2 3 3;f;", "m1 1 2 0;m2 2 1 0;");
         told("a ring of two", x, "5 2 1");
         walks("a ring of two", x, 3, "0:-1 2:0 1:2 3:0");
         run(x, "p2;");
@@ -661,8 +566,8 @@ public final class PromiseTest {
 
     /** Step (f): which one is put back, put back higher, put back in vain and cut at the ROOT. */
     private static void mergedRingsInTurn() {
-        promise = 15;
-        MergedOutline x = after("a0 0 0 1 1;a0 1 0 2 2;a0 0 1 3 3;f;", "m1 2 0 0;m1 3 2 0;d1 1;m2 2 3 0;");
+        at = "promise 15";
+        Used x = after("a0 0 0 1 1;a0 1 0 2 2;a0 0 1 3 3;f;", "m1 2 0 0;m1 3 2 0;d1 1;m2 2 3 0;");
         told("a PARENT in dispute makes no ring", x, "2 2 3");
         walks("a PARENT in dispute makes no ring", x, 3, "0:-1 2:0 3:2");
         x = after("a0 0 0 1 1;a0 1 0 2 2;a0 0 1 3 3;a0 1 1 4 4;f;", "m1 3 2 0;m2 2 4 0;m2 4 3 0;");
@@ -697,8 +602,8 @@ public final class PromiseTest {
 
     /** Step (g). */
     private static void mergedPlaces() {
-        promise = 15;
-        MergedOutline x = after("a0 0 0 1 1;a0 0 1 2 2;a0 0 2 3 3;f;", "m1 3 0 0;m2 2 0 0;");
+        at = "promise 15";
+        Used x = after("a0 0 0 1 1;a0 0 1 2 2;a0 0 2 3 3;f;", "m1 3 0 0;m2 2 0 0;");
         walks("as LEFT", x, 3, "0:-1 3:0 1:0 2:0");
         run(x, "p2;");
         walks("as RIGHT", x, 3, "0:-1 2:0 1:0 3:0");
@@ -717,8 +622,8 @@ public final class PromiseTest {
     }
 
     private static void script() {
-        promise = 16;
-        MergedOutline x = after("a0 0 0 1 1;a0 0 1 2 2;a0 0 2 3 3;a0 3 0 4 4;f;");
+        at = "promise 16";
+        Used x = after("a0 0 0 1 1;a0 0 1 2 2;a0 0 2 3 3;a0 3 0 4 4;f;");
         scripted("nothing", x, 1, "");
         run(x, "a1 0 0 9 9;d1 3;m1 2 1 0;r1 2 8;e1 2 8;r1 0 7;e1 0 7;e1 1 6;");
         scripted("LEFT", x, 1, "4 0, 5 0, 5 1, 3 2, 4 2, 5 2, 2 3, 2 4, 1 5");
@@ -736,7 +641,7 @@ public final class PromiseTest {
         due("what, behind the last", x.script(1, 99, 2), BAD);
         due("i NONE, what 1", x.script(1, NONE, 1), BAD);
         due("counted", x.refused(0), 7);
-        MergedOutline all = new MergedOutline();
+        Used all = new Used();
         for (int s = 1; s < 16; s++) {
             all.adds(0, 0, 0, 1, 1);
         }
@@ -750,8 +655,8 @@ public final class PromiseTest {
     }
 
     private static void matches() {
-        promise = 17;
-        MergedOutline x = after("a0 0 0 10 20;a0 0 1 11 21;", "a1 0 0 11 21;a1 0 1 10 20;");
+        at = "promise 17";
+        Used x = after("a0 0 0 10 20;a0 0 1 11 21;", "a1 0 0 11 21;a1 0 1 10 20;");
         due("all but the place", x.matches(1, 3), 2);
         due("all but the place", x.matches(1, 4), 1);
         due("RIGHT has none of them", x.matches(2, 3), BAD);
@@ -781,7 +686,7 @@ public final class PromiseTest {
         due("5 has the place of 2", x.matches(1, 6), 2);
         due("4 alone: the lesser b that is left", x.matches(1, 7), 3);
         due("a section that fits none", x.matches(1, 4), NONE);
-        MergedOutline y = after("a0 0 0 10 20;a0 1 0 50 21;r1 0 9;a1 0 0 0 60;a1 3 0 50 61;a1 3 1 52 62;");
+        Used y = after("a0 0 0 10 20;a0 1 0 50 21;r1 0 9;a1 0 0 0 60;a1 3 0 50 61;a1 3 1 52 62;");
         due("place alone", y.matches(1, 3), NONE);
         due("NAME and place ahead of the PARENT's NAME and place", y.matches(1, 4), 2);
         due("the PARENT's NAME alone", y.matches(1, 5), NONE);
@@ -795,8 +700,8 @@ public final class PromiseTest {
     }
 
     private static void told() {
-        promise = 18;
-        MergedOutline x = after("a0 0 0 1 1;a0 0 1 2 2;f;");
+        at = "promise 18";
+        Used x = after("a0 0 0 1 1;a0 0 1 2 2;f;");
         due("preferred", x.told(0), 1);
         due("free", x.told(1), 3);
         due("all match themselves", x.told(2), 0);
@@ -819,8 +724,8 @@ public final class PromiseTest {
     }
 
     private static void type() {
-        promise = 19;
-        MergedOutline x = new MergedOutline();
+        at = "promise 19";
+        Used x = new Used();
         due("0", x.type(0), 1);
         due("127", x.type(127), 2);
         due("-1", x.type(-1), BAD);
@@ -838,8 +743,8 @@ public final class PromiseTest {
     }
 
     private static void clear() {
-        promise = 20;
-        MergedOutline x = new MergedOutline();
+        at = "promise 20";
+        Used x = new Used();
         due("nothing", x.clear(), 0);
         types(x, "f;f;");
         due("four", x.clear(), 4);
@@ -850,8 +755,8 @@ public final class PromiseTest {
     }
 
     private static void does() {
-        promise = 21;
-        MergedOutline x = new MergedOutline();
+        at = "promise 21";
+        Used x = new Used();
         String ofEach = "a 0 0 0 10 11;a0 0 1 20 21;f;m1 2 1 0;r1 1 99;e 2 1 98 ;d2 2;p2;";
         due("one of each", doesText(x, ofEach), 8);
         due("THE TEXT stays", x.refused(3), ofEach.length());
@@ -879,7 +784,7 @@ public final class PromiseTest {
         due("two figures", x.of(0, 1, 2), 9);
         due("blanks all over", doesText(x, "  r  0  1  7  ;  f  ;  "), 2);
         due("no blanks that are not needed", doesText(x, "r0 1 8;p1;f;"), 3);
-        MergedOutline y = new MergedOutline();
+        Used y = new Used();
         for (int s = 1; s < 16; s++) {
             y.adds(0, 0, 0, 1, 1);
         }
@@ -897,8 +802,8 @@ public final class PromiseTest {
     }
 
     private static void doesFaults() {
-        promise = 21;
-        MergedOutline x = after("a0 0 0 1 1;");
+        at = "promise 21";
+        Used x = after("a0 0 0 1 1;");
         String[] texts = {"", "   ", "x", ";", "f", "f1", "f;;", "f;x", "F;", "p", "p;", "p 1", "p1 2", "p123", "p12 ",
             "p1;f", "d1 1 1;", "d1;", "d1 ;", "d 1 1", "d11 1 1", "d111", "a0 0 0 1;", "a0 0 0 1 1 ", "a0 0 0 1 1 1",
             "a0 0 0 100 1;", "a00 00 00 00 000;", "m0 1 0;", "m0 1 0 0 0;", "r0 1;", "r0 1 1 1;", "e0 1 x;", "e0 1 -1;",
@@ -915,7 +820,7 @@ public final class PromiseTest {
         due("a fault behind orders that could be done", doesText(x, "r0 1 77;r0 1 7"), -24);
         due("is nothing done", x.of(0, 1, 2), 1);
         due("a fault ahead of an order that would be refused", doesText(x, "d0 0;x"), -15);
-        x.clear();
+        x = new Used();
         types(x, "f;");
         for (int i = 2; i < 150; i++) {
             x.type(' ');
@@ -932,8 +837,8 @@ public final class PromiseTest {
     }
 
     private static void back() {
-        promise = 22;
-        MergedOutline x = new MergedOutline();
+        at = "promise 22";
+        Used x = new Used();
         due("none", x.back(), NO);
         for (int i = 1; i <= 7; i++) {
             x.renames(0, 0, i);
@@ -976,9 +881,9 @@ public final class PromiseTest {
 
     /** The digest tells of all that back() brings back, so it must be as it was ahead of each act. */
     private static void backOverEach() {
-        promise = 22;
+        at = "promise 22";
         for (int first = 0; first <= 5; first++) {
-            MergedOutline x = after("a0 0 0 1 1;a0 1 0 2 2;a0 0 1 3 3;f;m1 1 3 0;r2 1 9;e2 2 9;a2 0 0 4 4;");
+            Used x = after("a0 0 0 1 1;a0 1 0 2 2;a0 0 1 3 3;f;m1 1 3 0;r2 1 9;e2 2 9;a2 0 0 4 4;");
             x.back();
             x.does();
             x.back();
@@ -996,7 +901,7 @@ public final class PromiseTest {
         }
     }
 
-    private static int anAct(MergedOutline x, int kind) {
+    private static int anAct(Used x, int kind) {
         switch (kind) {
             case 0: return x.adds(1, 2, 0, 5, 5);
             case 1: return x.moves(2, 3, 2, 0);
@@ -1011,8 +916,8 @@ public final class PromiseTest {
     }
 
     private static void refused() {
-        promise = 23;
-        MergedOutline x = new MergedOutline();
+        at = "promise 23";
+        Used x = new Used();
         due("what", x.refused(-1), BAD);
         due("what", x.refused(5), BAD);
         due("BAD", x.refused(0), 2);
@@ -1043,7 +948,7 @@ public final class PromiseTest {
         due("refused calls change nothing else", x.refused(4), 5);
     }
 
-    private static long digestByGetters(MergedOutline x) {
+    private static long digestByGetters(Used x) {
         long h = 1703;
         for (int what = 0; what < 5; what++) {
             h = 31 * h + x.refused(what);
@@ -1074,17 +979,21 @@ public final class PromiseTest {
     }
 
     private static void digest() {
-        promise = 24;
-        MergedOutline x = new MergedOutline();
+        at = "promise 24";
+        Used x = new Used();
         due("at first", x.digest(), digestByGetters(x));
-        run(x, "a0 0 0 1 1;a0 0 1 2 2;a0 2 0 3 3;a0 0 2 4 4;f;", "m1 1 2 0;m2 2 1 0;r1 3 7;r2 3 8;d1 4;e2 4 9;a2 4 0 6 6;");
+        String[] story = {"a0 0 0 1 1;a0 0 1 2 2;a0 2 0 3 3;a0 0 2 4 4;f;",
+            "m1 1 2 0;m2 2 1 0;r1 3 7;r2 3 8;d1 4;e2 4 9;a2 4 0 6 6;"};
+        x = after(story);
         due("with conflicts", x.digest(), digestByGetters(x));
+        x = after(story);
         x.back();
         due("behind back()", x.digest(), digestByGetters(x));
+        x = after(story);
         x.has(9, 9);
         x.type('x');
-        due("behind a refused call", x.digest(), digestByGetters(x));
         long once = x.digest();
+        due("behind a refused call", once, digestByGetters(x));
         due("asked twice", x.digest(), once);
     }
 }
