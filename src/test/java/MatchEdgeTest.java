@@ -27,7 +27,8 @@ public final class MatchEdgeTest extends Checks {
 
     /**
      * Every likeness with every other. So that places differ, BASE has a sister behind 1 and the side its image ahead
-     * of the one that is asked for: these two match by NAME and TEXT, ahead of all that they have with others.
+     * of the one that is asked for: these two match by NAME and TEXT, ahead of all that they have with others. The
+     * PARENTS' TEXTS are alike where their NAMES are not, for they must not count.
      */
     static void scoresOf3OrMore() {
         for (int likeness = 0; likeness < 16; likeness++) {
@@ -44,6 +45,8 @@ public final class MatchEdgeTest extends Checks {
                     x.adds(o, 0, 0, 88, 89);
                 }
                 x.renames(o, 0, parent ? 0 : 9);
+                x.edits(0, 0, 77);
+                x.edits(o, 0, parent ? 78 : 77);
                 int s = x.adds(o, 0, place ? 0 : 1, name ? 10 : 50, text ? 20 : 60);
                 due("SCORE " + score, x.matches(o, s), score >= 3 ? 1 : NONE);
                 due("told", x.told(1 + o), (score >= 3 ? 1 : 0) + (place ? 0 : 1));

@@ -124,6 +124,7 @@ public final class MergedEdgeTest extends Checks {
             run(x, side(o, "m$ 6 1 0;"));
             told("a child lost, one come", x, "3 1 1");
         }
+        told("the least number as the child", after(THREE, "d1 2;m2 1 2 0;"), "3 2 2");
         told("the greatest number as the child", after("a0 0 0 1 1;".repeat(13),
                 "a0 0 0 1 1;f;d1 1;a2 1 0 1 1;"), "3 1 1");
     }
@@ -283,6 +284,9 @@ public final class MergedEdgeTest extends Checks {
         x = after(chain, "d1 1;e2 4 9;e2 2 9;");
         told("two of them", x, "3 2 2, 3 4 4, 4 2 1, 4 4 3");
         walks("two of them", x, 3, "0:-1 2:0 4:2");
+        x = after("a0 0 0 1 1;a0 0 1 2 2;m0 1 2 0;f;", "d1 2;e2 1 9;");
+        told("the PARENT of the least number", x, "3 1 1, 4 1 2");
+        walks("the PARENT of the least number", x, 3, "0:-1 1:0");
     }
 
     static void aParentFourteenUp() {

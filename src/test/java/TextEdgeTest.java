@@ -185,6 +185,17 @@ public final class TextEdgeTest extends Checks {
         does("p1;p1;p1;p1 1;", fault(12));
     }
 
+    /** Wherever a TEXT broke off, the next one is read from its own first byte. */
+    static void aFaultIsForgotten() {
+        Used x = new Used();
+        for (String broken : new String[] {"p", "p1", "p12", "p1 ", "d0", "d0 1", "a0 0 0 1 1", "f", "f;p1"}) {
+            due("broken off: " + broken, doesText(x, broken), fault(broken.length()));
+            due("the next one behind " + broken, doesText(x, "p02;p1;p02;"), 3);
+            due("PREFERRED", x.told(0), 2);
+            due("taken back", x.back() >= 0 ? 1 : 0, 1);
+        }
+    }
+
     static void readWholeFirst() {
         does("p0;x", fault(3));
         does("p0;p", fault(4));
